@@ -397,6 +397,8 @@ public final class PackedFaultTest {
             byte[] file = Files.of(1, 3, 0, 8, 0).piece("IDAT", Reference.plainPacked(raw)).ended();
             DUE.faulty("filter " + filter, file, 30, filter > 4 ? 2 : 4);
         }
+        DUE.faulty("the first filter", Files.of(1, 2, 0, 8, 0)
+            .piece("IDAT", Reference.plainPacked(Files.row(5, 1, 5, 1))).ended(), 30, 0);
         byte[] laced = new byte[2 * 2 + 3];
         laced[4] = 5;
         DUE.faulty("laced", Files.of(2, 2, 0, 8, 1).piece("IDAT", Reference.plainPacked(laced)).ended(), 30, 4);
@@ -423,9 +425,25 @@ public final class PackedFaultTest {
             .piece("IDAT", Reference.plainPacked(like.raw(0))).ended(), 31, 1);
         DUE.faulty("filters first", Files.of(2, 2, 3, 8, 0).piece("PLTE", new byte[6])
             .piece("IDAT", Reference.plainPacked(new byte[] {0, 9, 9, 5, 0, 0})).ended(), 30, 3);
+        DUE.faulty("the first point", Files.of(2, 1, 3, 8, 0).piece("PLTE", new byte[6])
+            .piece("IDAT", Reference.plainPacked(new byte[] {0, 2, 2})).ended(), 31, 0);
+        coloursOfAnEarlierPicture();
         // What is left of a byte is no point.
         DUE.good("left bits", Files.of(3, 1, 3, 2, 0).piece("PLTE", new byte[3])
             .piece("IDAT", Reference.plainPacked(new byte[] {0, 3})).ended());
+    }
+
+    /** Points beyond a picture's last one are none, whatever an earlier picture had there. */
+    private static void coloursOfAnEarlierPicture() {
+        PictureFile x = new PictureFile();
+        byte[] large = Files.of(3, 1, 3, 8, 0).piece("PLTE", new byte[768])
+            .piece("IDAT", Reference.plainPacked(Files.row(0, 255, 255, 255))).ended();
+        byte[] small = Files.of(2, 1, 3, 8, 0).piece("PLTE", new byte[3])
+            .piece("IDAT", Reference.plainPacked(new byte[3])).ended();
+        for (byte[] file : new byte[][] {large, large, small, small}) {
+            Files.load(x, file);
+            DUE.same("an earlier picture", x.read(), PictureFile.NONE);
+        }
     }
 
     /** Packed bytes in many pieces: a fault's place is on the tape. */

@@ -64,12 +64,15 @@ public final class PictureTest {
 
     private static void makeIsNew() {
         PictureFile x = made(64, 64, 6, 16);
-        x.fill(0, 0, 64, 64, 3, 65535);
+        for (int c = 0; c < 4; c++) {
+            x.fill(0, 0, 64, 64, c, 65535);
+        }
         x.colour(1, 2, 3);
         x.make(5, 4, 2, 16, true);
         x.thin(7, 8, 9);
         x.fill(0, 0, 5, 4, 1, 9);
         x.make(64, 64, 3, 8, true);
+        DUE.same("the first sample", x.sample(0, 0, 0), 0);
         DUE.same("one colour", x.about(5), 1);
         DUE.same("no thin numbers", x.about(6), 0);
         for (int c = 0; c < 3; c++) {

@@ -52,6 +52,13 @@ public final class PieceFaultTest {
         for (int n = 8; n < file.length; n++) {
             DUE.faulty(n + " bytes", Arrays.copyOf(file, n), 2, n);
         }
+        PictureFile x = new PictureFile();
+        Files.load(x, file);
+        for (int n = file.length - 1; n >= 0; n--) {
+            x.end(n);
+            DUE.same("end(" + n + ")", x.read(), n);
+            DUE.same("its fault", x.fault(), n < 8 ? 1 : 2);
+        }
     }
 
     private static void length() {
