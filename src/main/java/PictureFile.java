@@ -357,7 +357,7 @@ public final class PictureFile {
         final int[] at = new int[MOST_ROWS];
         /** How many bytes the row has behind its filter byte. */
         final int[] length = new int[MOST_ROWS];
-        /** How far before a byte the one of the row above in the pass is; 0: there is no such row. */
+        /** How far before a byte that of the row above in the pass is; 0: there is no such row. */
         final int[] up = new int[MOST_ROWS];
 
         void lay(int width, int height, int pointBits, boolean laced) {
@@ -474,10 +474,7 @@ public final class PictureFile {
         }
 
         boolean letsValue(int value) {
-            if (kind == NUMBERED && value >= colourCount) {
-                return false;
-            }
-            return value >= 0 && value < 1 << depth;
+            return isNumber(value) && (kind != NUMBERED || value < colourCount);
         }
 
         boolean letsThin(int a, int b, int c) {
@@ -766,9 +763,11 @@ public final class PictureFile {
             boolean lacksColours = into.kind == Picture.NUMBERED && !hadColours;
             switch (type) {
                 case Tape.PLTE:
-                    return Picture.mayHaveColours(into.kind) && !hadColours && !hadThins && !hadData;
+                    return Picture.mayHaveColours(into.kind)
+                        && !hadColours && !hadThins && !hadData;
                 case Tape.TRNS:
-                    return Picture.mayHaveThins(into.kind) && !lacksColours && !hadThins && !hadData;
+                    return Picture.mayHaveThins(into.kind)
+                        && !lacksColours && !hadThins && !hadData;
                 case Tape.IDAT:
                     return !lacksColours && (!hadData || before == Tape.IDAT);
                 case Tape.IEND:
@@ -1355,7 +1354,7 @@ public final class PictureFile {
             }
         }
 
-        /** The longest copy at a place, the nearest of several; its length is 0 where there is none. */
+        /** The longest copy at a place, the nearest of several; of length 0 if there is none. */
         private void findCopy(int place) {
             bestLength = 0;
             int most = Math.min(Codes.MOST_COPY, total - place);

@@ -23,22 +23,13 @@ public final class PictureTest {
         return x;
     }
 
-    private static boolean has(int kind, int depth) {
-        for (int[] pair : Reference.KINDS) {
-            if (pair[0] == kind && pair[1] == depth) {
-                return true;
-            }
-        }
-        return false;
-    }
-
     private static void whatCanBeMade() {
         PictureFile x = made(3, 2, 4, 16);
         for (int kind = -1; kind < 9; kind++) {
             for (int depth = -1; depth < 34; depth++) {
                 int k = kind;
                 int d = depth;
-                if (has(kind, depth)) {
+                if (Reference.has(kind, depth)) {
                     x.make(3, 2, k, d, true);
                     DUE.same("kind", x.about(2), k);
                     DUE.same("depth", x.about(3), d);

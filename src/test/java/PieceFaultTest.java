@@ -216,7 +216,7 @@ public final class PieceFaultTest {
         }
         for (int kind = 0; kind < 256; kind++) {
             for (int depth = 1; depth <= 16; depth *= 2) {
-                if (!has(kind, depth)) {
+                if (!Reference.has(kind, depth)) {
                     DUE.faulty("kind " + kind + ", depth " + depth, Files.of(1, 1, kind, depth, 9).ended(), 9, 25);
                 }
             }
@@ -234,15 +234,6 @@ public final class PieceFaultTest {
         one[10] = 0;
         one[11] = 1;
         DUE.faulty("byte 11 is 1", new Files().piece("IHDR", one).ended(), 9, 27);
-    }
-
-    private static boolean has(int kind, int depth) {
-        for (int[] pair : Reference.KINDS) {
-            if (pair[0] == kind && pair[1] == depth) {
-                return true;
-            }
-        }
-        return false;
     }
 
     private static void thinNumbers() {

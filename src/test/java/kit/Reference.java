@@ -28,6 +28,15 @@ final class Reference {
         {0, 1}, {0, 2}, {0, 4}, {0, 8}, {0, 16}, {2, 8}, {2, 16}, {3, 1}, {3, 2}, {3, 4}, {3, 8},
         {4, 8}, {4, 16}, {6, 8}, {6, 16}};
 
+    static boolean has(int kind, int depth) {
+        for (int[] pair : KINDS) {
+            if (pair[0] == kind && pair[1] == depth) {
+                return true;
+            }
+        }
+        return false;
+    }
+
     int sample(int x, int y, int c) {
         return samples[(y * width + x) * channels + c];
     }
