@@ -1,19 +1,35 @@
-/** Promises 6 to 14: make, about, sample, set, fill, colour, ofColour, thin, ofThin. */
+import java.util.function.Consumer;
+
+/** Promises 6 to 15: make, about, sample, set, fill, colour, ofColour, thin, ofThin, filter. */
 public final class PictureTest {
     private static final Due DUE = new Due();
+    private static final int MIN = Integer.MIN_VALUE;
+    private static final int MAX = Integer.MAX_VALUE;
 
     public static void main(String[] args) {
-        whatCanBeMade();
+        make();
         makeIsNew();
+        makeRefused();
         about();
-        sampleAndSet();
+        aboutRefused();
+        sample();
+        sampleRefused();
+        set();
+        setRefused();
         setColours();
         fill();
+        fillOutside();
+        fillRefused();
         colour();
+        colourRefused();
         ofColour();
         thinOfGrey();
         thinOfRgb();
         thinOfColours();
+        thinRefused();
+        thinFull();
+        ofThin();
+        filter();
         DUE.finish();
     }
 
@@ -23,68 +39,98 @@ public final class PictureTest {
         return x;
     }
 
-    private static void whatCanBeMade() {
-        PictureFile x = made(3, 2, 4, 16);
-        for (int kind = -1; kind < 9; kind++) {
-            for (int depth = -1; depth < 34; depth++) {
-                int k = kind;
-                int d = depth;
-                if (Reference.has(kind, depth)) {
-                    x.make(3, 2, k, d, true);
-                    DUE.same("kind", x.about(2), k);
-                    DUE.same("depth", x.about(3), d);
-                } else {
-                    DUE.notLet("make of kind " + k + ", depth " + d, () -> x.make(3, 2, k, d, false));
+    private static void outside(String what, PictureFile x, Consumer<PictureFile> call) {
+        DUE.keeps(IndexOutOfBoundsException.class, what, x, call);
+    }
+
+    private static void notLet(String what, PictureFile x, Consumer<PictureFile> call) {
+        DUE.keeps(IllegalArgumentException.class, what, x, call);
+    }
+
+    private static void tooMany(String what, PictureFile x, Consumer<PictureFile> call) {
+        DUE.keeps(UnsupportedOperationException.class, what, x, call);
+    }
+
+    private static void make() {
+        DUE.sentence("A new picture, all samples 0, without colours (but kind 3: one, of 0s) and thin numbers.");
+        for (int[] pair : Reference.KINDS) {
+            for (boolean laced : new boolean[] {false, true}) {
+                PictureFile x = new PictureFile();
+                x.make(3, 2, pair[0], pair[1], laced);
+                int[] due = {3, 2, pair[0], pair[1], laced ? 1 : 0, pair[0] == 3 ? 1 : 0, 0};
+                for (int what = 0; what < due.length; what++) {
+                    DUE.same("about(" + what + ")", x.about(what), due[what]);
+                }
+                DUE.same("samples", State.samples(x), "0 ".repeat(6 * State.channels(pair[0])));
+                for (int c = 0; c < 3 && pair[0] == 3; c++) {
+                    DUE.same("the colour", x.ofColour(0, c), 0);
                 }
             }
         }
-        x.make(64, 64, 6, 16, true);
-        x.make(1, 64, 2, 8, false);
-        int[] wrong = {0, -1, 65, 256, Integer.MIN_VALUE, Integer.MAX_VALUE};
-        for (int size : wrong) {
-            DUE.notLet("width " + size, () -> x.make(size, 1, 0, 8, false));
-            DUE.notLet("height " + size, () -> x.make(1, size, 0, 8, false));
-        }
-        DUE.same("a call that throws changes nothing, width", x.about(0), 1);
-        DUE.same("a call that throws changes nothing, height", x.about(1), 64);
-        DUE.same("a call that throws changes nothing, kind", x.about(2), 2);
-        PictureFile none = new PictureFile();
-        DUE.notLet("make", () -> none.make(0, 1, 0, 8, false));
-        DUE.lacksPicture("no picture behind it", () -> none.about(0));
     }
 
     private static void makeIsNew() {
+        DUE.sentence("A new picture (nothing is left of the one there was)");
         PictureFile x = made(64, 64, 6, 16);
         for (int c = 0; c < 4; c++) {
             x.fill(0, 0, 64, 64, c, 65535);
         }
         x.colour(1, 2, 3);
         x.make(5, 4, 2, 16, true);
+        DUE.same("samples", State.samples(x), "0 ".repeat(60));
         x.thin(7, 8, 9);
         x.fill(0, 0, 5, 4, 1, 9);
         x.make(64, 64, 3, 8, true);
-        DUE.same("the first sample", x.sample(0, 0, 0), 0);
+        DUE.same("samples", State.samples(x), "0 ".repeat(4096));
         DUE.same("one colour", x.about(5), 1);
         DUE.same("no thin numbers", x.about(6), 0);
         for (int c = 0; c < 3; c++) {
             DUE.same("it is of 0s", x.ofColour(0, c), 0);
         }
         x.colour(4, 5, 6);
+        x.thin(9, 9, 9);
         x.make(64, 64, 6, 16, false);
         DUE.same("no colours", x.about(5), 0);
         DUE.same("no thin numbers", x.about(6), 0);
-        int sum = 0;
-        for (int k = 0; k < 64 * 64 * 4; k++) {
-            sum |= x.sample(k % 64, k / 64 % 64, k / 4096);
-        }
-        DUE.same("all samples", sum, 0);
+        DUE.same("samples", State.samples(x), "0 ".repeat(16384));
         x.make(1, 1, 3, 1, false);
         DUE.same("one colour again", x.about(5), 1);
         DUE.same("it is of 0s again", x.ofColour(0, 1), 0);
-        DUE.same("the tape stays empty", x.read(), 0);
+        x.set(0, 0, 0, 0);
+        x.make(1, 1, 3, 1, false);
+        DUE.same("made twice", State.picture(x), State.picture(made(1, 1, 3, 1)));
+        // Tape and fault are no matter of make().
+        x.feed(1, 2, 3, 4, 5);
+        x.read();
+        String tape = State.tape(x);
+        x.make(2, 2, 0, 8, false);
+        DUE.same("the tape stays", State.tape(x), tape);
+        DUE.same("the fault stays", x.fault(), 1);
+    }
+
+    private static void makeRefused() {
+        DUE.sentence("make: IllegalArgumentException: there is no such picture");
+        PictureFile none = new PictureFile();
+        PictureFile x = made(3, 2, 2, 16);
+        x.colour(1, 2, 3);
+        x.thin(1, 2, 3);
+        x.set(2, 1, 2, 77);
+        x.feed(1, 2, 3, 4, 5);
+        x.read();
+        int[][] wrong = {{0, 1, 0, 8}, {65, 1, 0, 8}, {-1, 1, 0, 8}, {MIN, 1, 0, 8}, {MAX, 1, 0, 8}, {1, 0, 0, 8},
+            {1, 65, 0, 8}, {1, -1, 0, 8}, {1, MIN, 0, 8}, {1, MAX, 0, 8}, {1, 1, -1, 8}, {1, 1, 1, 8}, {1, 1, 5, 8},
+            {1, 1, 7, 8}, {1, 1, MIN, 8}, {1, 1, MAX, 8}, {1, 1, 0, 0}, {1, 1, 0, 3}, {1, 1, 0, 17}, {1, 1, 0, 32},
+            {1, 1, 0, MIN}, {1, 1, 0, MAX}, {1, 1, 2, 4}, {1, 1, 2, 1}, {1, 1, 3, 16}, {1, 1, 4, 4}, {1, 1, 6, 4},
+            {0, 0, 1, 3}, {MIN, MAX, MIN, MAX}};
+        for (int[] at : wrong) {
+            String what = "make(" + at[0] + ", " + at[1] + ", " + at[2] + ", " + at[3] + ")";
+            notLet(what, x, y -> y.make(at[0], at[1], at[2], at[3], true));
+            notLet(what, none, y -> y.make(at[0], at[1], at[2], at[3], false));
+        }
     }
 
     private static void about() {
+        DUE.sentence("Of the picture: what = 0 width, 1 height, .. 7 rows, 8 raw bytes");
         PictureFile x = new PictureFile();
         x.make(5, 9, 2, 16, true);
         x.colour(1, 1, 1);
@@ -93,37 +139,18 @@ public final class PictureTest {
         // Rows of 5 by 9, laced: 2, 2, 1, 3, 2, 5, 4; points of a row: 1, 1, 2, 1, 3, 2, 5.
         int points = 2 * 1 + 2 * 1 + 1 * 2 + 3 * 1 + 2 * 3 + 5 * 2 + 4 * 5;
         int[] due = {5, 9, 2, 16, 1, 2, 3, 19, points * 6 + 19};
-        DUE.same("all points", points, 45);
         for (int what = 0; what < 9; what++) {
             DUE.same("about(" + what + ")", x.about(what), due[what]);
         }
-        DUE.notLet("about(-1)", () -> x.about(-1));
-        DUE.notLet("about(9)", () -> x.about(9));
-        DUE.notLet("about(MIN)", () -> x.about(Integer.MIN_VALUE));
-        x.make(1, 1, 0, 1, true);
-        DUE.same("rows", x.about(7), 1);
-        DUE.same("raw bytes", x.about(8), 2);
-        x.make(1, 5, 0, 1, true);
-        // Of pass 1 the row 0, of pass 3 row 4, of pass 5 row 2, of pass 7 rows 1 and 3.
-        DUE.same("rows", x.about(7), 5);
-        x.make(2, 1, 0, 1, true);
-        DUE.same("rows", x.about(7), 2);
-        x.make(64, 64, 6, 16, true);
-        DUE.same("rows", x.about(7), 120);
-        DUE.same("raw bytes", x.about(8), 32768 + 120);
-        x.make(64, 64, 6, 16, false);
-        DUE.same("rows", x.about(7), 64);
-        DUE.same("raw bytes", x.about(8), 32768 + 64);
-        DUE.same("laced", x.about(4), 0);
-        x.make(9, 3, 0, 1, false);
-        DUE.same("raw bytes", x.about(8), 9);
-        x.make(5, 2, 3, 2, false);
-        DUE.same("raw bytes", x.about(8), 6);
-        rowsOfAllSizes();
-    }
-
-    private static void rowsOfAllSizes() {
-        PictureFile x = new PictureFile();
+        int[][] sizes = {{1, 1, 0, 1, 1, 1, 2}, {1, 5, 0, 1, 1, 5, 10}, {2, 1, 0, 1, 1, 2, 4}, {64, 64, 6, 16, 1, 120, 32888},
+            {64, 64, 6, 16, 0, 64, 32832}, {9, 3, 0, 1, 0, 3, 9}, {8, 3, 0, 1, 0, 3, 6}, {5, 2, 3, 2, 0, 2, 6},
+            {1, 1, 0, 1, 0, 1, 2}, {64, 64, 0, 1, 0, 64, 576}, {64, 64, 0, 1, 1, 120, 632}};
+        for (int[] size : sizes) {
+            x.make(size[0], size[1], size[2], size[3], size[4] == 1);
+            DUE.same("laced", x.about(4), size[4]);
+            DUE.same("rows of " + size[0] + " by " + size[1], x.about(7), size[5]);
+            DUE.same("raw bytes of " + size[0] + " by " + size[1], x.about(8), size[6]);
+        }
         for (int width = 1; width < 18; width++) {
             for (int height = 1; height < 18; height++) {
                 Reference like = new Reference(width, height, 0, 2, true);
@@ -134,173 +161,412 @@ public final class PictureTest {
         }
     }
 
-    private static void sampleAndSet() {
+    private static void aboutRefused() {
+        DUE.sentence("about: IllegalStateException; IllegalArgumentException: what is none of these");
+        PictureFile x = made(2, 2, 3, 8);
+        for (int what : new int[] {-1, 9, 10, MIN, MIN + 8, MAX, 256}) {
+            notLet("about(" + what + ")", x, y -> y.about(what));
+            DUE.keeps(IllegalStateException.class, "no picture", new PictureFile(), y -> y.about(what));
+        }
+        DUE.keeps(IllegalStateException.class, "no picture", new PictureFile(), y -> y.about(0));
+        DUE.keeps(IllegalStateException.class, "no picture", new PictureFile(), y -> y.about(8));
+    }
+
+    private static void sample() {
+        DUE.sentence("Sample c of a point.");
+        for (int kind : new int[] {0, 2, 4, 6}) {
+            PictureFile x = made(3, 4, kind, 16);
+            int channels = State.channels(kind);
+            StringBuilder due = new StringBuilder();
+            for (int k = 0; k < 12 * channels; k++) {
+                x.set(k / channels % 3, k / channels / 3, k % channels, 1000 + k);
+                due.append(1000 + k).append(' ');
+            }
+            DUE.same("kind " + kind, State.samples(x), due.toString());
+        }
+        PictureFile x = made(64, 64, 6, 16);
+        x.set(63, 63, 3, 65535);
+        x.set(0, 0, 0, 1);
+        DUE.same("the last sample of the largest", x.sample(63, 63, 3), 65535);
+        DUE.same("the first one", x.sample(0, 0, 0), 1);
+        DUE.same("one between", x.sample(63, 62, 3), 0);
+    }
+
+    /** Points and samples that are not there, of 4 by 3 points. */
+    private static int[][] notThere(int channels) {
+        return new int[][] {{-1, 0, 0}, {4, 0, 0}, {MIN, 0, 0}, {MAX, 0, 0}, {0, -1, 0}, {0, 3, 0}, {0, MIN, 0}, {0, MAX, 0},
+            {0, 0, -1}, {0, 0, channels}, {0, 0, MIN}, {0, 0, MAX}, {-1, 1, channels}, {4, -1, 0}, {3, 3, 0}, {4, 2, 0},
+            {MIN, MIN, MIN}, {MAX, MAX, MAX}, {0, 0, 4}, {-1, 3, 0}};
+    }
+
+    private static void sampleRefused() {
+        DUE.sentence("sample: IllegalStateException; IndexOutOfBoundsException: there is no such point, sample");
+        for (int kind : new int[] {0, 2, 3, 4, 6}) {
+            PictureFile x = made(4, 3, kind, 8);
+            int channels = State.channels(kind);
+            for (int[] at : notThere(channels)) {
+                String what = "sample(" + at[0] + ", " + at[1] + ", " + at[2] + ") of kind " + kind;
+                outside(what, x, y -> y.sample(at[0], at[1], at[2]));
+                DUE.keeps(IllegalStateException.class, what, new PictureFile(), y -> y.sample(at[0], at[1], at[2]));
+            }
+            DUE.same("the first", x.sample(0, 0, 0), 0);
+            DUE.same("the last", x.sample(3, 2, channels - 1), 0);
+        }
+        DUE.keeps(IllegalStateException.class, "no picture", new PictureFile(), y -> y.sample(0, 0, 0));
+    }
+
+    private static void set() {
+        DUE.sentence("Sample c of a point becomes another one. (0 .. 2 to the depth less 1)");
         for (int[] pair : Reference.KINDS) {
-            if (pair[0] == 3) {
-                continue;
-            }
             PictureFile x = made(4, 3, pair[0], pair[1]);
-            int channels = pair[0] == 0 ? 1 : pair[0] == 2 ? 3 : pair[0] == 4 ? 2 : 4;
+            int channels = State.channels(pair[0]);
             int most = (1 << pair[1]) - 1;
+            for (int n = 1; n <= most && pair[0] == 3; n++) {
+                x.colour(0, 0, 0);
+            }
             x.set(3, 2, channels - 1, most);
-            DUE.same("sample", x.sample(3, 2, channels - 1), most);
-            DUE.same("another point", x.sample(2, 2, channels - 1), 0);
-            DUE.same("another point", x.sample(3, 1, channels - 1), 0);
-            if (channels > 1) {
-                DUE.same("another sample", x.sample(3, 2, 0), 0);
-            }
-            DUE.notLet("too much", () -> x.set(3, 2, 0, most + 1));
-            DUE.notLet("too little", () -> x.set(3, 2, 0, -1));
-            DUE.notLet("far too much", () -> x.set(3, 2, 0, Integer.MAX_VALUE));
-            int[][] outside = {{-1, 0, 0}, {4, 0, 0}, {0, -1, 0}, {0, 3, 0}, {0, 0, -1}, {0, 0, channels}};
-            for (int[] at : outside) {
-                DUE.outside("sample", () -> x.sample(at[0], at[1], at[2]));
-                DUE.outside("set", () -> x.set(at[0], at[1], at[2], 0));
-                DUE.outside("set of a wrong value", () -> x.set(at[0], at[1], at[2], -1));
-            }
-            DUE.same("sample behind all", x.sample(3, 2, channels - 1), most);
+            DUE.same("the largest value", x.sample(3, 2, channels - 1), most);
+            DUE.same("all others", State.samples(x), "0 ".repeat(12 * channels - 1) + most + " ");
             x.set(3, 2, channels - 1, 0);
-            DUE.same("sample again", x.sample(3, 2, channels - 1), 0);
+            DUE.same("0 again", State.samples(x), "0 ".repeat(12 * channels));
+            x.set(0, 0, 0, 1);
+            DUE.same("the first", State.samples(x), "1 " + "0 ".repeat(12 * channels - 1));
+            for (int value : new int[] {-1, most + 1, most + 2, -most - 1, MIN, MAX, 65536, MIN + 1}) {
+                notLet("set(0, 0, 0, " + value + ") of depth " + pair[1], x, y -> y.set(0, 0, 0, value));
+                notLet("fill by " + value + " of depth " + pair[1], x, y -> y.fill(0, 0, 4, 3, 0, value));
+            }
         }
     }
 
+    private static void setRefused() {
+        DUE.sentence("set: IllegalStateException; IndexOutOfBoundsException; IllegalArgumentException (the one named first)");
+        for (int kind : new int[] {0, 2, 3, 4, 6}) {
+            PictureFile x = made(4, 3, kind, 8);
+            for (int[] at : notThere(State.channels(kind))) {
+                for (int value : new int[] {0, -1, 256, MIN, MAX}) {
+                    String what = "set(" + at[0] + ", " + at[1] + ", " + at[2] + ", " + value + ")";
+                    outside(what, x, y -> y.set(at[0], at[1], at[2], value));
+                    DUE.refused(IllegalStateException.class, what, () -> NONE.set(at[0], at[1], at[2], value));
+                }
+            }
+        }
+        DUE.keeps(IllegalStateException.class, "no picture", NONE, y -> y.set(0, 0, 0, 0));
+        DUE.keeps(IllegalStateException.class, "no picture", NONE, y -> y.set(0, 0, 0, -1));
+    }
+
+    /** There is no picture in it, ever. */
+    private static final PictureFile NONE = new PictureFile();
+
     private static void setColours() {
-        PictureFile x = made(2, 2, 3, 2);
-        x.set(1, 1, 0, 0);
-        DUE.notLet("a colour that is not there", () -> x.set(1, 1, 0, 1));
-        x.colour(9, 9, 9);
-        x.set(1, 1, 0, 1);
-        DUE.notLet("a colour that is not there", () -> x.fill(0, 0, 1, 1, 0, 2));
-        DUE.same("sample", x.sample(1, 1, 0), 1);
-        DUE.same("sample", x.sample(0, 0, 0), 0);
-        DUE.notLet("too little", () -> x.set(1, 1, 0, -1));
+        DUE.sentence("set: IllegalArgumentException: it is .. a colour that is not there");
+        for (int depth = 1; depth <= 8; depth *= 2) {
+            PictureFile x = made(2, 2, 3, depth);
+            for (int colours = 1; colours <= 1 << depth; colours++) {
+                int n = colours;
+                x.set(1, 1, 0, n - 1);
+                DUE.same("the last colour", x.sample(1, 1, 0), n - 1);
+                x.fill(0, 0, 2, 2, 0, n - 1);
+                DUE.same("the last colour, by fill", x.sample(0, 1, 0), n - 1);
+                if (n < 6 || n > 250) {
+                    notLet("colour " + n, x, y -> y.set(1, 1, 0, n));
+                    notLet("colour " + n + ", by fill", x, y -> y.fill(0, 0, 1, 1, 0, n));
+                    notLet("colour -1", x, y -> y.set(1, 1, 0, -1));
+                }
+                if (n < 1 << depth) {
+                    x.colour(9, 9, 9);
+                }
+            }
+            int beyond = 1 << depth;
+            notLet("2 to the depth", x, y -> y.set(1, 1, 0, beyond));
+            notLet("MAX", x, y -> y.set(1, 1, 0, MAX));
+        }
+        // The colours of kinds 2 and 6 are no matter of their samples.
+        PictureFile x = made(1, 1, 2, 8);
+        x.colour(1, 1, 1);
+        x.set(0, 0, 2, 255);
+        DUE.same("kind 2", x.sample(0, 0, 2), 255);
     }
 
     private static void fill() {
-        PictureFile x = made(6, 5, 4, 8);
-        x.fill(1, 2, 3, 2, 1, 255);
-        for (int px = 0; px < 6; px++) {
-            for (int py = 0; py < 5; py++) {
-                boolean in = px >= 1 && px <= 3 && py >= 2 && py <= 3;
-                DUE.same("filled at " + px + ", " + py, x.sample(px, py, 1), in ? 255 : 0);
-                DUE.same("the other sample at " + px + ", " + py, x.sample(px, py, 0), 0);
+        DUE.sentence("All points from (x, y) to (x + width - 1, y + height - 1) get value in sample c.");
+        int[][] places = {{0, 0, 6, 5}, {1, 2, 3, 2}, {5, 4, 1, 1}, {0, 0, 1, 1}, {0, 4, 6, 1}, {5, 0, 1, 5}, {2, 0, 4, 5},
+            {0, 2, 6, 3}};
+        for (int[] at : places) {
+            for (int c = 0; c < 2; c++) {
+                PictureFile x = made(6, 5, 4, 8);
+                x.fill(at[0], at[1], at[2], at[3], c, 255);
+                StringBuilder due = new StringBuilder();
+                for (int k = 0; k < 60; k++) {
+                    int px = k / 2 % 6;
+                    int py = k / 12;
+                    boolean in = px >= at[0] && px < at[0] + at[2] && py >= at[1] && py < at[1] + at[3] && k % 2 == c;
+                    due.append(in ? 255 : 0).append(' ');
+                }
+                DUE.same("fill at " + at[0] + ", " + at[1], State.samples(x), due.toString());
             }
         }
+        PictureFile x = made(64, 64, 6, 16);
+        x.fill(0, 0, 64, 64, 3, 65535);
+        DUE.same("the largest", State.samples(x), "0 0 0 65535 ".repeat(4096));
+    }
+
+    private static final int[][] FILL_OUTSIDE = {
+        {-1, 0, 2, 2, 0}, {0, -1, 2, 2, 0}, {6, 0, 1, 1, 0}, {0, 5, 1, 1, 0}, {5, 0, 2, 1, 0}, {0, 4, 1, 2, 0}, {0, 0, 7, 1, 0},
+        {0, 0, 1, 6, 0}, {0, 0, 0, 1, 0}, {0, 0, 1, 0, 0}, {2, 2, -1, 1, 0}, {2, 2, 1, -1, 0}, {6, 0, 0, 1, 0}, {0, 5, 1, 0, 0},
+        {0, 0, 1, 1, 2}, {0, 0, 1, 1, -1}, {0, 0, 1, 1, MIN}, {0, 0, 1, 1, MAX}, {1, 0, MAX, 1, 0}, {0, 1, 1, MAX, 0},
+        {0, 0, MIN, 1, 0}, {0, 0, 1, MIN, 0}, {MAX, 0, 1, 1, 0}, {0, MAX, 1, 1, 0}, {MAX, 0, MAX, 1, 0}, {0, MAX, 1, MAX, 0},
+        {MIN, 0, 1, 1, 0}, {0, MIN, 1, 1, 0}, {MIN, 0, MIN, 1, 0}, {0, MIN, 1, MIN, 0}, {MIN, 0, MAX, 1, 0}, {-1, 0, 7, 1, 0},
+        {MAX, MAX, MAX, MAX, MAX}, {MIN, MIN, MIN, MIN, MIN}, {5, 4, 2, 2, 0}, {7, 0, -1, 1, 0}};
+
+    private static void fillOutside() {
+        DUE.sentence("fill: IndexOutOfBoundsException: width or height is below 1, too");
+        PictureFile x = made(6, 5, 4, 8);
         x.fill(0, 0, 6, 5, 0, 7);
-        DUE.same("the last point", x.sample(5, 4, 0), 7);
-        x.fill(5, 4, 1, 1, 0, 8);
-        DUE.same("the last point alone", x.sample(5, 4, 0), 8);
-        int[][] outside = {{-1, 0, 2, 2, 0}, {0, -1, 2, 2, 0}, {6, 0, 1, 1, 0}, {0, 5, 1, 1, 0},
-            {5, 0, 2, 1, 0}, {0, 4, 1, 2, 0}, {0, 0, 0, 1, 0}, {0, 0, 1, 0, 0}, {2, 2, -1, 1, 0},
-            {2, 2, 1, -1, 0}, {0, 0, 1, 1, 2}, {0, 0, 1, 1, -1}, {1, 0, Integer.MAX_VALUE, 1, 0},
-            {0, 1, 1, Integer.MAX_VALUE, 0}, {0, 0, Integer.MIN_VALUE, 1, 0}};
-        for (int[] at : outside) {
-            DUE.outside("fill", () -> x.fill(at[0], at[1], at[2], at[3], at[4], 1));
-            DUE.outside("fill of a wrong value", () -> x.fill(at[0], at[1], at[2], at[3], at[4], 256));
+        for (int[] at : FILL_OUTSIDE) {
+            String what = "fill(" + at[0] + ", " + at[1] + ", " + at[2] + ", " + at[3] + ", " + at[4] + ")";
+            outside(what, x, y -> y.fill(at[0], at[1], at[2], at[3], at[4], 1));
         }
-        DUE.notLet("too much", () -> x.fill(0, 0, 6, 5, 0, 256));
-        DUE.notLet("too little", () -> x.fill(0, 0, 6, 5, 0, -1));
-        DUE.same("nothing has changed", x.sample(0, 0, 0), 7);
-        DUE.same("nothing has changed", x.sample(2, 2, 0), 7);
+    }
+
+    private static void fillRefused() {
+        DUE.sentence("fill: IllegalStateException; IndexOutOfBoundsException; IllegalArgumentException (the one named first)");
+        PictureFile x = made(6, 5, 4, 8);
+        for (int[] at : FILL_OUTSIDE) {
+            for (int value : new int[] {-1, 256, MIN, MAX}) {
+                String what = "fill(" + at[0] + ", " + at[1] + ", " + at[2] + ", " + at[3] + ", " + at[4] + ", " + value + ")";
+                outside(what, x, y -> y.fill(at[0], at[1], at[2], at[3], at[4], value));
+                DUE.refused(IllegalStateException.class, what,
+                    () -> NONE.fill(at[0], at[1], at[2], at[3], at[4], value));
+            }
+        }
+        for (int value : new int[] {-1, 256, MIN, MAX}) {
+            notLet("fill by " + value, x, y -> y.fill(1, 1, 2, 2, 1, value));
+        }
+        DUE.keeps(IllegalStateException.class, "no picture", NONE, y -> y.fill(0, 0, 1, 1, 0, 0));
     }
 
     private static void colour() {
-        PictureFile x = made(1, 1, 0, 8);
-        DUE.notLet("kind 0", () -> x.colour(1, 2, 3));
-        x.make(1, 1, 4, 8, false);
-        DUE.notLet("kind 4", () -> x.colour(1, 2, 3));
-        for (int kind : new int[] {2, 6}) {
-            x.make(1, 1, kind, 16, false);
-            for (int n = 1; n <= 256; n++) {
-                DUE.same("colour", x.colour(n, 0, 0), n);
+        DUE.sentence("A colour more, of three bytes (the lowest eight bits of each): how many there are.");
+        for (int kind : new int[] {2, 3, 6}) {
+            PictureFile x = made(1, 1, kind, 8);
+            int first = x.about(5);
+            int[] values = {0, 1, 255, 256, 257, -1, -255, MIN, MAX};
+            for (int k = 0; k < values.length; k++) {
+                DUE.same("colour", x.colour(values[k], values[(k + 1) % 9], values[(k + 2) % 9]), first + k + 1);
             }
-            DUE.tooMany("the colour 257", () -> x.colour(1, 2, 3));
-            DUE.same("how many", x.about(5), 256);
-        }
-        for (int depth = 1; depth <= 8; depth *= 2) {
-            x.make(1, 1, 3, depth, false);
-            for (int n = 2; n <= 1 << depth; n++) {
-                DUE.same("colour", x.colour(n, 0, 0), n);
+            for (int k = 0; k < values.length; k++) {
+                for (int c = 0; c < 3; c++) {
+                    DUE.same("byte " + c + " of colour " + k, x.ofColour(first + k, c), values[(k + c) % 9] & 255);
+                }
             }
-            DUE.tooMany("one colour more", () -> x.colour(1, 2, 3));
-            DUE.same("how many", x.about(5), 1 << depth);
+            DUE.same("how many", x.about(5), first + 9);
         }
+    }
+
+    private static void colourRefused() {
+        DUE.sentence("colour: IllegalArgumentException: the kind has none");
+        for (int[] pair : Reference.KINDS) {
+            PictureFile x = made(1, 1, pair[0], pair[1]);
+            if (pair[0] == 0 || pair[0] == 4) {
+                notLet("kind " + pair[0], x, y -> y.colour(0, 0, 0));
+                notLet("kind " + pair[0], x, y -> y.colour(MIN, MAX, -1));
+            } else {
+                DUE.same("kind " + pair[0], x.colour(0, 0, 0), pair[0] == 3 ? 2 : 1);
+            }
+        }
+        DUE.sentence("colour: UnsupportedOperationException: there are 256, or for kind 3 2 to the depth");
+        for (int[] pair : new int[][] {{2, 8}, {2, 16}, {6, 8}, {6, 16}, {3, 1}, {3, 2}, {3, 4}, {3, 8}}) {
+            PictureFile x = made(1, 1, pair[0], pair[1]);
+            int most = pair[0] == 3 ? 1 << pair[1] : 256;
+            for (int n = x.about(5) + 1; n <= most; n++) {
+                DUE.same("colour", x.colour(n, n, n), n);
+            }
+            tooMany("one more than " + most, x, y -> y.colour(0, 0, 0));
+            tooMany("one more than " + most, x, y -> y.colour(MIN, MAX, -1));
+        }
+        DUE.sentence("colour: IllegalStateException (the one named first)");
+        DUE.keeps(IllegalStateException.class, "no picture", NONE, y -> y.colour(1, 2, 3));
     }
 
     private static void ofColour() {
+        DUE.sentence("Byte c of colour k. IllegalStateException; IndexOutOfBoundsException.");
         PictureFile x = made(1, 1, 2, 8);
-        DUE.outside("there is none", () -> x.ofColour(0, 0));
-        x.colour(1, 2, 255);
-        x.colour(-1, 256, 0x1234);
-        int[] due = {1, 2, 255, 255, 0, 0x34};
+        outside("there is none", x, y -> y.ofColour(0, 0));
+        x.colour(1, 2, 3);
+        x.colour(4, 5, 6);
         for (int k = 0; k < 6; k++) {
-            DUE.same("ofColour", x.ofColour(k / 3, k % 3), due[k]);
+            DUE.same("byte " + k, x.ofColour(k / 3, k % 3), k + 1);
         }
-        DUE.outside("colour 2", () -> x.ofColour(2, 0));
-        DUE.outside("colour -1", () -> x.ofColour(-1, 0));
-        DUE.outside("byte 3", () -> x.ofColour(0, 3));
-        DUE.outside("byte -1", () -> x.ofColour(1, -1));
-        DUE.outside("colour MAX", () -> x.ofColour(Integer.MAX_VALUE, 0));
-        x.make(1, 1, 0, 8, false);
-        DUE.outside("kind 0", () -> x.ofColour(0, 0));
+        int[][] wrong = {{-1, 0}, {2, 0}, {MIN, 0}, {MAX, 0}, {0, -1}, {0, 3}, {0, MIN}, {0, MAX}, {1, 3}, {1, -1}, {2, -3},
+            {-1, 3}, {-1, 5}, {MIN, MIN}, {MAX, MAX}, {256, 0}};
+        for (int[] at : wrong) {
+            outside("ofColour(" + at[0] + ", " + at[1] + ")", x, y -> y.ofColour(at[0], at[1]));
+            DUE.keeps(IllegalStateException.class, "no picture", NONE, y -> y.ofColour(at[0], at[1]));
+        }
+        DUE.keeps(IllegalStateException.class, "no picture", NONE, y -> y.ofColour(0, 0));
+        for (int kind : new int[] {0, 4}) {
+            outside("kind " + kind, made(1, 1, kind, 8), y -> y.ofColour(0, 0));
+        }
+        PictureFile three = made(1, 1, 3, 8);
+        DUE.same("the one colour of kind 3", three.ofColour(0, 2), 0);
+        outside("no other one", three, y -> y.ofColour(1, 0));
+        for (int n = 1; n < 256; n++) {
+            three.colour(n, n, n);
+        }
+        DUE.same("the last of 256", three.ofColour(255, 2), 255);
+        outside("colour 256", three, y -> y.ofColour(256, 0));
     }
 
     private static void thinOfGrey() {
-        PictureFile x = made(1, 1, 0, 4);
-        DUE.outside("there is none", () -> x.ofThin(0));
-        DUE.same("thin", x.thin(15, 15, 15), 1);
-        DUE.same("ofThin", x.ofThin(0), 15);
-        DUE.notLet("not the same", () -> x.thin(1, 1, 2));
-        DUE.notLet("not the same", () -> x.thin(1, 2, 1));
-        DUE.notLet("not the same", () -> x.thin(2, 1, 1));
-        DUE.notLet("too much", () -> x.thin(16, 16, 16));
-        DUE.notLet("too little", () -> x.thin(-1, -1, -1));
-        DUE.same("nothing has changed", x.ofThin(0), 15);
-        DUE.same("thin in place of it", x.thin(3, 3, 3), 1);
-        DUE.same("ofThin", x.ofThin(0), 3);
-        DUE.same("how many", x.about(6), 1);
-        DUE.outside("ofThin(1)", () -> x.ofThin(1));
-        DUE.outside("ofThin(-1)", () -> x.ofThin(-1));
+        DUE.sentence("The thin numbers become this: kind 0, all three the same");
+        for (int depth = 1; depth <= 16; depth *= 2) {
+            PictureFile x = made(1, 1, 0, depth);
+            int most = (1 << depth) - 1;
+            DUE.same("thin", x.thin(most, most, most), 1);
+            DUE.same("ofThin", x.ofThin(0), most);
+            DUE.same("in place of it", x.thin(0, 0, 0), 1);
+            DUE.same("ofThin", x.ofThin(0), 0);
+            DUE.same("how many", x.about(6), 1);
+        }
     }
 
     private static void thinOfRgb() {
-        PictureFile x = made(1, 1, 2, 16);
-        DUE.same("thin", x.thin(65535, 0, 300), 3);
-        DUE.same("ofThin", x.ofThin(0), 65535);
-        DUE.same("ofThin", x.ofThin(1), 0);
-        DUE.same("ofThin", x.ofThin(2), 300);
-        DUE.outside("ofThin(3)", () -> x.ofThin(3));
-        DUE.notLet("too much", () -> x.thin(65536, 0, 0));
-        DUE.notLet("too much", () -> x.thin(0, 65536, 0));
-        DUE.notLet("too little", () -> x.thin(0, 0, -1));
-        DUE.same("nothing has changed", x.ofThin(2), 300);
-        DUE.same("thin in place of them", x.thin(1, 2, 3), 3);
-        DUE.same("ofThin", x.ofThin(2), 3);
-        x.make(1, 1, 2, 8, false);
-        DUE.notLet("too much for the depth", () -> x.thin(0, 0, 256));
-        DUE.same("thin", x.thin(0, 0, 255), 3);
-        for (int kind : new int[] {4, 6}) {
-            x.make(1, 1, kind, 8, false);
-            DUE.notLet("the kind has none", () -> x.thin(0, 0, 0));
-            DUE.same("how many", x.about(6), 0);
-            DUE.outside("ofThin(0)", () -> x.ofThin(0));
+        DUE.sentence("The thin numbers become this: .. kind 2, the three");
+        for (int depth = 8; depth <= 16; depth += 8) {
+            PictureFile x = made(1, 1, 2, depth);
+            int most = (1 << depth) - 1;
+            DUE.same("thin", x.thin(most, 0, 30), 3);
+            DUE.same("in place of them", x.thin(1, most, 3), 3);
+            DUE.same("the first", x.ofThin(0), 1);
+            DUE.same("the second", x.ofThin(1), most);
+            DUE.same("the third", x.ofThin(2), 3);
+            DUE.same("how many", x.about(6), 3);
         }
     }
 
     private static void thinOfColours() {
-        PictureFile x = made(1, 1, 3, 1);
-        DUE.same("thin", x.thin(255, -7, 4711), 1);
-        DUE.tooMany("as many as colours", () -> x.thin(0, 0, 0));
-        DUE.notLet("too much, which counts first", () -> x.thin(256, 0, 0));
-        DUE.notLet("too little, which counts first", () -> x.thin(-1, 0, 0));
+        DUE.sentence("The thin numbers become this: .. kind 3, one more, a, behind those there are (b and c are nothing)");
+        PictureFile x = made(1, 1, 3, 2);
+        DUE.same("thin", x.thin(255, MIN, MAX), 1);
         x.colour(1, 1, 1);
-        DUE.notLet("too much", () -> x.thin(256, 0, 0));
-        DUE.same("how many", x.about(6), 1);
-        DUE.same("thin", x.thin(0, 1, 2), 2);
-        DUE.same("ofThin", x.ofThin(0), 255);
-        DUE.same("ofThin", x.ofThin(1), 0);
-        DUE.tooMany("as many as colours", () -> x.thin(0, 0, 0));
-        DUE.outside("ofThin(2)", () -> x.ofThin(2));
-        DUE.outside("ofThin(MIN)", () -> x.ofThin(Integer.MIN_VALUE));
+        x.colour(1, 1, 1);
+        DUE.same("thin", x.thin(0, -1, 256), 2);
+        DUE.same("thin", x.thin(7, 0, 0), 3);
+        DUE.same("the first", x.ofThin(0), 255);
+        DUE.same("the second", x.ofThin(1), 0);
+        DUE.same("the third", x.ofThin(2), 7);
+    }
+
+    private static void thinRefused() {
+        DUE.sentence("thin: IllegalArgumentException: the kind has none");
+        for (int[] pair : new int[][] {{4, 8}, {4, 16}, {6, 8}, {6, 16}}) {
+            notLet("kind " + pair[0], made(1, 1, pair[0], pair[1]), y -> y.thin(0, 0, 0));
+        }
+        DUE.sentence("thin: a number is not 0 .. 2 to the depth less 1 (of kind 3 0 .. 255)");
+        for (int[] pair : Reference.KINDS) {
+            if (pair[0] == 0 || pair[0] == 2) {
+                numbersRefused(pair[0], pair[1]);
+            } else if (pair[0] == 3) {
+                PictureFile x = made(1, 1, 3, pair[1]);
+                for (int value : new int[] {-1, 256, MIN, MAX, 65535}) {
+                    notLet("kind 3: " + value, x, y -> y.thin(value, 0, 0));
+                }
+                DUE.same("255, whatever the depth is", x.thin(255, 0, 0), 1);
+            }
+        }
+        DUE.sentence("thin: of kind 0 they are not the same");
+        PictureFile x = made(1, 1, 0, 4);
+        x.thin(7, 7, 7);
+        int[][] wrong = {{7, 7, 8}, {7, 8, 7}, {8, 7, 7}, {0, 1, 2}, {0, 0, 15}, {7, 7, 7 + 256}, {0, 0, MIN}, {0, MIN, 0}};
+        for (int[] at : wrong) {
+            notLet("thin(" + at[0] + ", " + at[1] + ", " + at[2] + ")", x, y -> y.thin(at[0], at[1], at[2]));
+        }
+        DUE.sentence("thin: IllegalStateException (the one named first)");
+        DUE.keeps(IllegalStateException.class, "no picture", NONE, y -> y.thin(-1, 0, 1));
+        DUE.keeps(IllegalStateException.class, "no picture", NONE, y -> y.thin(0, 0, 0));
+    }
+
+    private static void numbersRefused(int kind, int depth) {
+        PictureFile x = made(1, 1, kind, depth);
+        x.thin(1, 1, 1);
+        int n = 1 << depth;
+        for (int value : new int[] {-1, n, n + 1, -n, MIN, MAX, 65536}) {
+            String what = value + " of kind " + kind + ", depth " + depth;
+            notLet(what, x, y -> y.thin(value, value, value));
+            if (kind == 2) {
+                notLet(what + ", the first", x, y -> y.thin(value, 0, 0));
+                notLet(what + ", the second", x, y -> y.thin(0, value, 0));
+                notLet(what + ", the third", x, y -> y.thin(0, 0, value));
+            }
+        }
+    }
+
+    private static void thinFull() {
+        DUE.sentence("thin: UnsupportedOperationException: kind 3, there are as many as colours");
+        PictureFile x = made(1, 1, 3, 1);
+        x.thin(9, 0, 0);
+        tooMany("1 of 1", x, y -> y.thin(0, 0, 0));
+        tooMany("1 of 1", x, y -> y.thin(255, MIN, MAX));
+        // What is named first counts first.
+        notLet("256, too", x, y -> y.thin(256, 0, 0));
+        notLet("-1, too", x, y -> y.thin(-1, 0, 0));
+        x.colour(1, 1, 1);
+        DUE.same("a colour more", x.thin(0, 1, 2), 2);
+        tooMany("2 of 2", x, y -> y.thin(0, 0, 0));
+        PictureFile most = made(1, 1, 3, 8);
+        for (int n = 1; n < 256; n++) {
+            most.colour(n, n, n);
+        }
+        for (int n = 1; n <= 256; n++) {
+            DUE.same("thin", most.thin(n - 1, 0, 0), n);
+        }
+        tooMany("256 of 256", most, y -> y.thin(0, 0, 0));
+        DUE.same("the last", most.ofThin(255), 255);
+    }
+
+    private static void ofThin() {
+        DUE.sentence("Thin number k. IllegalStateException; IndexOutOfBoundsException.");
+        for (int[] pair : new int[][] {{0, 8, 1}, {2, 8, 3}, {3, 8, 1}, {4, 8, 0}, {6, 8, 0}}) {
+            PictureFile x = made(1, 1, pair[0], pair[1]);
+            outside("there is none", x, y -> y.ofThin(0));
+            if (pair[2] > 0) {
+                x.thin(5, 5, 5);
+                DUE.same("the last", x.ofThin(pair[2] - 1), 5);
+            }
+            for (int k : new int[] {-1, pair[2], pair[2] + 1, MIN, MAX, 256}) {
+                outside("ofThin(" + k + ") of kind " + pair[0], x, y -> y.ofThin(k));
+                DUE.keeps(IllegalStateException.class, "no picture", NONE, y -> y.ofThin(k));
+            }
+        }
+        DUE.keeps(IllegalStateException.class, "no picture", NONE, y -> y.ofThin(0));
+    }
+
+    private static void filter() {
+        DUE.sentence("The filter with which row k would be written. IllegalStateException; IndexOutOfBoundsException.");
+        for (boolean laced : new boolean[] {false, true}) {
+            PictureFile x = new PictureFile();
+            x.make(5, 5, 0, 8, laced);
+            int rows = laced ? 11 : 5;
+            DUE.same("rows", x.about(7), rows);
+            for (int k : new int[] {-1, rows, rows + 1, MIN, MAX, 120}) {
+                outside("filter(" + k + ")", x, y -> y.filter(k));
+                DUE.keeps(IllegalStateException.class, "no picture", NONE, y -> y.filter(k));
+            }
+            for (int k = 0; k < rows; k++) {
+                DUE.same("all 0: filter(" + k + ")", x.filter(k), 0);
+            }
+            x.fill(0, 0, 5, 5, 0, 9);
+            DUE.same("it changes with the picture", x.filter(rows - 1), 2);
+        }
+        DUE.keeps(IllegalStateException.class, "no picture", NONE, y -> y.filter(0));
+        PictureFile most = new PictureFile();
+        most.make(64, 64, 6, 16, true);
+        DUE.same("the last row of the largest", most.filter(119), 0);
+        outside("row 120", most, y -> y.filter(120));
+        // It is told without a write, and asking for it writes nothing.
+        most.feed(1, 2, 3, 4, 5);
+        String tape = State.tape(most);
+        most.filter(5);
+        DUE.same("the tape stays", State.tape(most), tape);
     }
 }

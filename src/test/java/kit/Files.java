@@ -18,6 +18,14 @@ final class Files {
         return new Files().piece("IHDR", header(width, height, kind, depth, laced));
     }
 
+    /** Another file that begins as this one does. */
+    Files copy() {
+        Files result = new Files();
+        result.out.reset();
+        result.out.writeBytes(all());
+        return result;
+    }
+
     static byte[] header(int width, int height, int kind, int depth, int laced) {
         return row(width >>> 24, width >> 16, width >> 8, width,
             height >>> 24, height >> 16, height >> 8, height, depth, kind, 0, 0, laced);

@@ -185,9 +185,10 @@ final class Reference {
         while (at < raw.length) {
             int best = 0;
             int distance = 0;
-            for (int d = 1; d <= 32768 && d <= at; d++) {
+            int most = Math.min(258, raw.length - at);
+            for (int d = 1; d <= 32768 && d <= at && best < most; d++) {
                 int n = 0;
-                while (n < 258 && at + n < raw.length && raw[at + n] == raw[at + n - d]) {
+                while (n < most && raw[at + n] == raw[at + n - d]) {
                     n++;
                 }
                 if (n > best) {
