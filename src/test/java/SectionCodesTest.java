@@ -104,8 +104,8 @@ public final class SectionCodesTest {
         for (int k = 0; k < 256; k++) {
             DUE.same("byte " + k, x.sample(k / 4, 0, k % 4), k);
         }
-        // 279 is 0010111, 280 is 11000000; with bits for 99 .. 114 and 115 .. 130.
-        PACKED.good("sign 279", 59, Bits.packed().block(1, 1).sign(0).sign(0).code("0010011").number(7, 3).code("00000")
+        // 275 is 0010011, for 51 .. 58; 280 is 11000000, for 115 .. 130.
+        PACKED.good("sign 275", 59, Bits.packed().block(1, 1).sign(0).sign(0).code("0010011").number(7, 3).code("00000")
             .sign(256).sum(new int[60]));
         DUE.good("sign 280", Files.of(39, 3, 0, 8, 0).piece("IDAT", Bits.packed().block(1, 1).sign(0).sign(0)
             .code("11000000").number(3, 4).code("00000").sign(256).sum(new int[120]).all()).ended());
@@ -402,7 +402,7 @@ public final class SectionCodesTest {
         PACKED.faulty("one of 128 is missing", 1, withSevens(127), 24, 16 + 3 + 14);
     }
 
-    /** Length codes 16 .. 1 of which all have seven bits but some: 1, 2, .. 6 and 7 bits are nearly full. */
+    /** Length codes that take up so many of 128 codes of seven bits. */
     private static Bits withSevens(int of128) {
         Bits bits = Bits.packed().block(1, 2).number(0, 5).number(0, 5).number(15, 4);
         int left = of128;
@@ -558,11 +558,11 @@ public final class SectionCodesTest {
         DUE.same("behind the last one", begin, 32769);
     }
 
-    /** Three bytes, 7, 8, 9 among 0s, are copied to the end of the largest picture's bytes or near it. */
+    /** Three bytes, 1, 2, 3 among 0s, are copied over this distance. */
     private static void farCopy(int code, int more, int bits, int distance) {
         int[] raw = new int[32888];
         int at = distance + 4;
-        // The first row of a laced picture of 64 points has its bytes from 1 on; 4 is a filter everywhere.
+        // They may become filter bytes, too.
         for (int k = 0; k < 3 && 4 + k < at; k++) {
             raw[4 + k] = 1 + k;
         }

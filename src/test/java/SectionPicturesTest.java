@@ -448,8 +448,7 @@ public final class SectionPicturesTest {
 
     private static void noneInThePass() {
         DUE.sentence("b the same one of the row above in the pass (in the first row of a pass there is none)");
-        // Of 5 by 5 the passes have rows of 1, 1, 2, 1 and 1, 3 and .. bytes: all rows but the second of a pass
-        // have no row above, whatever the row before them has.
+        // Each of these rows is the first one of its pass, whatever is in the row before it.
         for (int filter = 2; filter < 5; filter++) {
             read("passes 1, 2, 4, 6 of one row each, filter " + filter,
                 file(5, 1, 0, 8, true, 0, 100, filter, 5, filter, 6, filter, 7, 0),
