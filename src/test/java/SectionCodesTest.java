@@ -36,6 +36,7 @@ public final class SectionCodesTest {
         beyondTheFirstByte();
         beyondTheWindow();
         orderInACopy();
+        cutOff();
         likeAnotherReader();
         DUE.finish();
     }
@@ -611,7 +612,9 @@ public final class SectionCodesTest {
             bits.code("11");
             one.code("11");
             int at = bits.size();
-            PACKED.faulty("there is no distance", 60, bits.number(0, 17), 25, at);
+            // No bit of it is wanted, as there is no code: what is left of the byte, if it is left, is enough.
+            PACKED.faulty("there is no distance, " + at % 8 + " bits of the byte are used", 60, bits, 25, at);
+            PACKED.faulty("there is no distance, and bytes behind", 60, bits.number(0, 17), 25, at);
             at = one.size();
             PACKED.faulty("not the one distance", 60, one.code("1").number(0, 9), 25, at);
         }
@@ -727,6 +730,41 @@ public final class SectionCodesTest {
                 // A distance is known when its bits are there.
                 PACKED.faulty("too far, cut at " + have, Packed.grey(60), Arrays.copyOf(far, have), 20, have);
             }
+        }
+    }
+
+    /** Cut off at each byte from there on, it lacks bits, whatever those that are left would say. */
+    private static void cutFrom(String what, Bits whole, int from, int to) {
+        byte[] all = whole.all();
+        for (int have = from / 8 + 1; 8 * have < to; have++) {
+            PACKED.faulty(what + ", cut at " + have, Packed.grey(60), Arrays.copyOf(all, have), 20, have);
+        }
+    }
+
+    /** The codes of a block that has gone before, and those of this one, are let alone by bits that are too few. */
+    private static void cutOff() {
+        DUE.sentence("20 when bits .. are not there (within a block of kind 2)");
+        for (int n = 1; n < 9; n++) {
+            // Signs 0, 256: 0, 1. The bits of the next block are 1s: they could be the end of this one.
+            Bits bits = Bits.packed().block(0, 2).fourBitLengths(257, 1).lengths(signs(257, 0, 1, 256, 1)).lengths(0);
+            bits.code("0".repeat(n)).code("1");
+            int at = bits.size();
+            bits.block(1, 2).number(29, 5).number(29, 5).number(15, 4);
+            for (int k = 0; k < 19; k++) {
+                bits.number(7, 3);
+            }
+            cutFrom("numbers and length codes", bits, at, bits.size());
+            // Signs 0, 256, 284: 0, 10, 11. The bits behind 284, and behind its distance, begin with 10.
+            bits = block(signs(285, 0, 1, 256, 2, 284, 2), signs(30, 29, 1)).code("0".repeat(n)).code("11");
+            at = bits.size();
+            bits.number(1, 5).code("0").number(1, 13);
+            cutFrom("bits of a copy", bits, at, bits.size());
+        }
+        for (int n = 0; n < 8; n++) {
+            // The bit that says that a block is the last one is there, and its kind is not, or half of it.
+            Bits bits = moved(n).block(1, 3);
+            int at = bits.size() - 3;
+            cutFrom("the kind of a block", bits, at, at + 3);
         }
     }
 
