@@ -634,7 +634,8 @@ public final class SectionCodesTest {
             }
         }
         PACKED.faulty("as the first sign", 1, Bits.packed().block(1, 1).sign(286), 25, 19);
-        PACKED.good("sign 285", 1, Bits.packed().plain(0, 0, 0).block(1, 1).sign(256).sum(0, 0));
+        Bits longest = Bits.packed().block(1, 1).sign(0).sign(285).code("00000").sign(256).sum(new int[259]);
+        DUE.good("sign 285, the last one that is let in", Files.of(43, 1, 2, 16, 0).piece("IDAT", longest.all()).ended());
     }
 
     private static void distancesBeyond() {
